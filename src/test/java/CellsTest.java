@@ -20,6 +20,8 @@ final class CellsTest {
         CHECKS.due("attribute where it lies", x.attribute(0, 1), 256 + 240);
         CHECKS.due("attribute of a field", x.attribute(0, 3), 240);
         CHECKS.due("attribute of the next", x.attribute(1, 3), 33);
+        CHECKS.due("attribute 0 where it lies", Host.written(1, 2, 29, 0).attribute(0, 0), 256);
+        CHECKS.due("attribute 0 of its field", Host.written(1, 2, 29, 0).attribute(0, 1), 0);
         CHECKS.due("cell sign", x.cell(3), 255);
         CHECKS.due("cell attribute", x.cell(4), 256 + 33);
         CHECKS.due("cell empty", x.cell(7), 0);

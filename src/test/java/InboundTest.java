@@ -45,6 +45,9 @@ final class InboundTest {
         Host.send(x, Host.READ_ALL);
         CHECKS.due("all cells", Host.waiting(x),
             96, 64, 68, 193, 29, 255, 255, 255, 255, 29, 33, 0, 194, 255, 239);
+        x = Host.written(1, 2, 29, 0);
+        Host.send(x, Host.READ_ALL);
+        CHECKS.due("all cells with attribute 0", Host.waiting(x), 96, 64, 64, 29, 0, 0, 255, 239);
     }
 
     private static void modifiedFields() {

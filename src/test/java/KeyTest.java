@@ -125,6 +125,7 @@ final class KeyTest {
         cursorBy(43, new int[] {29, 32, 29, 0, 29, 0}, 7, 3);
         cursorBy(43, new int[] {29, 0, 17, 0, 9, 29, 0}, 5, 1);
         cursorBy(43, new int[] {193, 17, 0, 9, 29, 0}, 5, 0);
+        cursorBy(43, new int[] {17, 0, 3, 29, 0, 17, 0, 9, 29, 0}, 5, 0);
         cursorBy(43, new int[] {29, 32}, 5, 0);
         cursorBy(43, new int[] {193}, 5, 0);
     }

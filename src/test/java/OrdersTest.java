@@ -55,6 +55,8 @@ final class OrdersTest {
         placeIs(x, 127, 127, 4095);
         placeIs(x, 255, 255, 4095);
         placeIs(x, 65, 5, 69);
+        CHECKS.due("half an address", Host.send(x, Host.WRITE, 0, 17, 64), BlockScreen.NONE);
+        CHECKS.due("half a plain address", Host.send(x, Host.WRITE, 0, 17, 1), BlockScreen.NONE);
         Host.send(x, Host.ERASE_WRITE, 0);
         placeIs(x, 7, 127, 1919);
         placeIs(x, 7, 128, BlockScreen.NONE);
@@ -89,6 +91,8 @@ final class OrdersTest {
         x = Host.written(1, 3, 193);
         CHECKS.due("41 with too few", Host.send(x, Host.WRITE, 0, 41, 2, 192, 1, 192), BlockScreen.NONE);
         CHECKS.due("puts nothing", Host.cells(x), 193, 0, 0);
+        CHECKS.due("41 with just enough", Host.send(x, Host.WRITE, 0, 41, 2, 192, 1, 192, 3), 2);
+        CHECKS.due("puts it", Host.cells(x), 256 + 3, 0, 0);
         CHECKS.due("41 with 255 pairs and none", Host.send(x, Host.WRITE, 0, 41, 255), BlockScreen.NONE);
     }
 
@@ -99,6 +103,7 @@ final class OrdersTest {
         CHECKS.due("44 goes on", x.cursor(), 2);
         CHECKS.due("44 where no attribute is", Host.send(x, Host.WRITE, 2, 44, 1, 192, 33, 200), BlockScreen.NONE);
         CHECKS.due("changes nothing", Host.cells(x), 256 + 33, 256 + 6, 193, 0);
+        CHECKS.due("44 0 where no attribute is", Host.send(x, Host.WRITE, 2, 17, 0, 3, 44, 0), BlockScreen.NONE);
         CHECKS.due("44 with no pairs", Host.send(x, Host.WRITE, 2, 17, 0, 1, 44, 0, 200), 3);
         CHECKS.due("44 with no pairs goes on", Host.cells(x), 256 + 33, 256 + 6, 200, 0);
     }
