@@ -1,28 +1,52 @@
 import java.util.Random;
 
-/** Any calls in any state: nothing is thrown but where the document says, and the answers agree with one another. */
+/** Random runs of calls, none longer than the document promises: each answer is the one that the model gives. */
 final class AnyCallsTest {
     private static final Checks CHECKS = new Checks();
-    private static final int[] COMMANDS = {245, 126, 241, 241, 241, 241, 111, 242, 246, 110};
-    private static final int[] ORDERS = {17, 29, 29, 29, 41, 44, 19, 5, 60, 18, 8};
-    private static final int[] ATTRIBUTES = {0, 0, 1, 16, 32, 33, 48, 255};
+    private static final int RUNS = 4000;
+    private static final int[] COMMANDS = {245, 126, 241, 241, 241, 241, 241, 241, 111, 242, 246, 110};
+    private static final int[] ORDERS = {5, 8, 17, 17, 18, 19, 19, 29, 29, 29, 29, 41, 44, 60};
+    private static final int[] ATTRIBUTES = {0, 0, 0, 1, 2, 16, 32, 33, 48, 49, 255};
+    private static final int[][] SIZES = {{1, 1}, {1, 2}, {2, 2}, {1, 6}, {3, 3}, {4, 5}, {6, 2}, {5, 7}};
+    private static final int[][] LARGE = {{24, 80}, {25, 81}, {32, 128}, {41, 100}, {43, 132}, {0, 200}, {99, -1}};
+
+    private final Random random;
+    private final String name;
+    private final Terminal x;
+    private final Model model;
+
+    private AnyCallsTest(int seed) {
+        random = new Random(seed);
+        name = "seed " + seed;
+        int[] size = seed % 40 == 0 ? pick(LARGE) : pick(SIZES);
+        x = new Terminal(size[0], size[1]);
+        model = new Model(size[0], size[1]);
+    }
 
     public static void main(String[] args) {
-        for (int seed = 0; seed < 1500; seed++) {
-            run(new Random(seed), "seed " + seed);
+        CHECKS.says("any promise");
+        for (int seed = 0; seed < RUNS; seed++) {
+            new AnyCallsTest(seed).run();
         }
         CHECKS.finish();
     }
 
-    private static void run(Random random, String name) {
-        boolean large = random.nextInt(50) == 0;
-        BlockScreen x = large
-            ? new BlockScreen(random.nextInt(46), random.nextInt(140))
-            : new BlockScreen(1 + random.nextInt(4), 1 + random.nextInt(6));
+    private int[] pick(int[][] all) {
+        return all[random.nextInt(all.length)];
+    }
+
+    private int pick(int[] all) {
+        return all[random.nextInt(all.length)];
+    }
+
+    private void run() {
         try {
-            for (int n = 0; n < 60; n++) {
-                call(x, random);
-                agree(x, name);
+            for (int n = 0; n < 200 && x.callsLeft() > 120; n++) {
+                change();
+                ask();
+            }
+            while (x.callsLeft() > 1) {
+                ask();
             }
         } catch (RuntimeException e) {
             e.printStackTrace(System.out);
@@ -30,92 +54,148 @@ final class AnyCallsTest {
         }
     }
 
-    private static void call(BlockScreen x, Random random) {
-        switch (random.nextInt(6)) {
-            case 0:
-                x.key(40 + random.nextInt(13));
-                break;
-            case 1:
-                x.key(random.nextInt(5) == 0 ? random.nextInt(24) : 51);
-                break;
-            case 2:
-                x.out((byte) random.nextInt());
-                break;
-            case 3:
-                stream(x, random);
-                break;
-            default:
-                x.type(random.nextBoolean() ? 240 + random.nextInt(10) : random.nextInt(300));
-                break;
+    private void change() {
+        int kind = random.nextInt(20);
+        if (kind < 5) {
+            stream();
+        } else if (kind < 6) {
+            out(random.nextInt(256));
+        } else if (kind < 11) {
+            type(random.nextInt(4) == 0 ? random.nextInt(300) : 240 + random.nextInt(12));
+        } else if (kind < 17) {
+            key(40 + random.nextInt(13));
+        } else if (kind < 18) {
+            key(random.nextInt(60) - 2);
+        } else {
+            key(51);
         }
     }
 
-    private static void stream(BlockScreen x, Random random) {
-        x.out((byte) 255);
-        x.out((byte) 239);
-        put(x, COMMANDS[random.nextInt(COMMANDS.length)]);
-        put(x, random.nextInt(8));
-        int size = x.count(0) * x.count(1);
-        for (int n = random.nextInt(8); n > 0; n--) {
-            if (random.nextBoolean()) {
-                put(x, 193 + random.nextInt(63));
-                continue;
-            }
-            put(x, ORDERS[random.nextInt(ORDERS.length)]);
-            for (int i = random.nextInt(4); i > 0; i--) {
-                int address = random.nextInt(size);
-                put(x, random.nextBoolean() ? ATTRIBUTES[random.nextInt(ATTRIBUTES.length)] : address / 256);
-                put(x, random.nextBoolean() ? address % 256 : 192);
-            }
-        }
-        x.out((byte) 255);
-        x.out((byte) 239);
+    private void out(int b) {
+        CHECKS.due(name + " out(" + b + ")", x.out(b), model.out(b));
     }
 
-    private static void put(BlockScreen x, int b) {
-        x.out((byte) b);
+    private void key(int code) {
+        CHECKS.due(name + " key(" + code + ")", x.key(code), model.key(code));
+    }
+
+    private void type(int c) {
+        CHECKS.due(name + " type(" + c + ")", x.type(c), model.type(c));
+    }
+
+    private void put(int b) {
+        out(b);
         if (b == 255) {
-            x.out((byte) b);
+            out(random.nextInt(40) == 0 ? 7 : b);
         }
     }
 
-    private static void agree(BlockScreen x, String name) {
-        int columns = x.count(1);
-        int[] cells = Host.cells(x);
-        int fields = 0;
-        int signs = 0;
-        for (int at = 0; at < cells.length; at++) {
-            boolean attribute = cells[at] >= 256;
-            fields += attribute ? 1 : 0;
-            signs += !attribute && cells[at] != 0 ? 1 : 0;
-            if (x.sign(at / columns, at % columns) != (attribute ? BlockScreen.NONE : cells[at])) {
-                CHECKS.due(name + ": sign agrees with cell at " + at, false, true);
+    private void stream() {
+        put(random.nextInt(30) == 0 ? random.nextInt(256) : pick(COMMANDS));
+        if (random.nextInt(3) > 0) {
+            put(random.nextInt(8));
+            for (int n = random.nextInt(9); n > 0; n--) {
+                signOrOrder();
             }
         }
-        CHECKS.due(name + ": count of fields", x.count(2), fields);
-        CHECKS.due(name + ": the cursor is on the screen", x.cursor() >= 0 && x.cursor() < cells.length, true);
-        fieldsAgree(x, name, cells, signs);
-        int[] waiting = Host.waiting(x);
-        int n = waiting.length;
-        CHECKS.due(name + ": what waits has an end", n == 0 || waiting[n - 2] == 255 && waiting[n - 1] == 239, true);
+        out(255);
+        out(239);
     }
 
-    private static void fieldsAgree(BlockScreen x, String name, int[] cells, int signs) {
-        int fields = x.count(2);
-        if (fields == 0) {
+    private void signOrOrder() {
+        if (random.nextInt(3) == 0) {
+            put(random.nextInt(5) == 0 ? 0 : 64 + random.nextInt(192));
             return;
         }
-        int covered = 0;
-        int signsSeen = 0;
-        for (int i = 0; i < fields; i++) {
-            covered += 1 + x.field(i, 2);
-            signsSeen += x.field(i, 3);
-            int held = cells[x.field(i, 0)];
-            if (held != 256 + x.field(i, 1) || x.modified(i) != ((held & 1) != 0)) {
-                CHECKS.due(name + ": field " + i + " agrees with its cell", false, true);
-            }
+        int order = random.nextInt(60) == 0 ? random.nextInt(64) : pick(ORDERS);
+        put(order);
+        if (random.nextInt(60) == 0) {
+            return;
         }
-        CHECKS.due(name + ": fields cover the screen", covered, cells.length);
-        CHECKS.due(name + ": fields have all signs", signsSeen, signs);
+        if (order == 17 || order == 18 || order == 60) {
+            address();
+        }
+        if (order == 8 || order == 60) {
+            put(random.nextInt(10) == 0 ? random.nextInt(256) : pick(new int[] {0, 64, 193, 255}));
+        }
+        if (order == 29) {
+            put(pick(ATTRIBUTES));
+        }
+        if (order == 41 || order == 44) {
+            pairs();
+        }
+    }
+
+    private void address() {
+        int size = model.count(0) * model.count(1);
+        int address = random.nextInt(size + (random.nextInt(20) == 0 ? 3 : 0));
+        boolean plain = address >= 4096 || random.nextBoolean();
+        put(plain ? address / 256 : 64 + address / 64);
+        put(plain ? address % 256 : 192 + address % 64);
+    }
+
+    private void pairs() {
+        int pairs = random.nextInt(3);
+        put(pairs);
+        for (int n = 0; n < pairs; n++) {
+            put(random.nextInt(3) == 0 ? 66 : 192);
+            put(pick(ATTRIBUTES));
+        }
+    }
+
+    private void ask() {
+        int rows = model.count(0);
+        int columns = model.count(1);
+        switch (random.nextInt(10)) {
+            case 0:
+                int row = random.nextInt(rows + 2) - 1;
+                int column = random.nextInt(columns + 2) - 1;
+                CHECKS.due(name + " sign(" + row + ", " + column + ")", x.sign(row, column), model.sign(row, column));
+                CHECKS.due(name + " attribute(" + row + ", " + column + ")",
+                    x.attribute(row, column), model.attribute(row, column));
+                break;
+            case 1:
+                int i = random.nextInt(6) - 1;
+                int what = random.nextInt(6) - 1;
+                CHECKS.due(name + " field(" + i + ", " + what + ")", x.field(i, what), model.field(i, what));
+                CHECKS.due(name + " modified(" + i + ")", x.modified(i), model.modified(i));
+                break;
+            case 2:
+                CHECKS.due(name + " cursor()", x.cursor(), model.cursor());
+                break;
+            case 3:
+                CHECKS.due(name + " locked()", x.locked(), model.locked());
+                break;
+            case 4:
+                int count = random.nextInt(9) - 1;
+                CHECKS.due(name + " count(" + count + ")", x.count(count), model.count(count));
+                break;
+            case 5:
+            case 6:
+                CHECKS.due(name + " inbound()", x.inbound(), model.inbound());
+                octet(random.nextInt(model.inbound() + 2) - 1);
+                break;
+            default:
+                cell(random.nextInt(rows * columns + 2) - 1);
+                break;
+        }
+    }
+
+    private void octet(int i) {
+        Byte want = model.octet(i);
+        if (want == null) {
+            CHECKS.due(name + " octet(" + i + ") throws", x.octetThrows(i), true);
+        } else {
+            CHECKS.due(name + " octet(" + i + ")", x.octet(i), want);
+        }
+    }
+
+    private void cell(int address) {
+        Integer want = model.cell(address);
+        if (want == null) {
+            CHECKS.due(name + " cell(" + address + ") throws", x.cellThrows(address), true);
+        } else {
+            CHECKS.due(name + " cell(" + address + ")", x.cell(address), want);
+        }
     }
 }
