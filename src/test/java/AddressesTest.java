@@ -8,6 +8,7 @@ final class AddressesTest {
         beyondTheLargest();
         beyondTheSmallOne();
         beyondLittleScreens();
+        halfOfOne();
         CHECKS.finish();
     }
 
@@ -82,5 +83,18 @@ final class AddressesTest {
         placeIs(Terminal.written(4, 10), 64, 104, Terminal.NONE);
         placeIs(Terminal.written(4, 10), 0, 39, 39);
         placeIs(Terminal.written(4, 10), 0, 40, Terminal.NONE);
+    }
+
+    /** On a screen so large that each byte alone could be taken for an address within it. */
+    private static void halfOfOne() {
+        CHECKS.says("bytes that lack: a reject");
+        for (int order : new int[] {17, 18, 60}) {
+            for (int first : new int[] {0, 1, 20, 64, 65, 127, 255}) {
+                Terminal x = Terminal.written(43, 132, 193);
+                CHECKS.due(order + " " + first, x.send(241, 2, order, first), Terminal.NONE);
+                CHECKS.due(order + " " + first + ": cells", x.cell(0) * 256 + x.cell(1), 193 * 256);
+                CHECKS.due(order + " " + first + ": locked", x.locked(), true);
+            }
+        }
     }
 }

@@ -3,7 +3,7 @@ import java.util.Random;
 /** Random runs of calls, none longer than the document promises: each answer is the one that the model gives. */
 final class AnyCallsTest {
     private static final Checks CHECKS = new Checks();
-    private static final int RUNS = 4000;
+    private static final int RUNS = 2000;
     private static final int[] COMMANDS = {245, 126, 241, 241, 241, 241, 241, 241, 111, 242, 246, 110};
     private static final int[] ORDERS = {5, 8, 17, 17, 18, 19, 19, 29, 29, 29, 29, 41, 44, 60};
     private static final int[] ATTRIBUTES = {0, 0, 0, 1, 2, 16, 32, 33, 48, 49, 255};

@@ -41,6 +41,10 @@ final class AttributesTest {
         x.cursorTo(1);
         x.type(241);
         CHECKS.due("the cursor behind typing ahead of attribute " + b, x.cursor(), (b & 48) == 48 ? 5 : 3);
+        x = Terminal.written(1, 6, 29, 0, 0, 29, b, 29, 0);
+        x.cursorTo(1);
+        x.type(241);
+        CHECKS.due("the same with an attribute behind " + b, x.cursor(), (b & 48) == 48 ? 4 : 3);
     }
 
     private static void hiddenBits(int b) {

@@ -2,11 +2,31 @@ import java.util.Arrays;
 
 /** Counts and prints the answers that are not the ones due, and ends the program with 1 if there were any. */
 final class Checks {
+    /** Far above what the longest test needs on a slow machine. */
+    private static final int MOST_MILLISECONDS = 300_000;
+
     private String sentence = "";
     private int looked = 0;
     private int wrong = 0;
 
-    /** The document's words that the next answers are held against. */
+    Checks() {
+        Thread watch = new Thread(Checks::endWhatNeverEnds);
+        watch.setDaemon(true);
+        watch.start();
+    }
+
+    /** A call that fails to end is a wrong answer, too, and must not hold up what runs the tests. */
+    private static void endWhatNeverEnds() {
+        try {
+            Thread.sleep(MOST_MILLISECONDS);
+            System.out.println("a call does not end");
+            Runtime.getRuntime().halt(1);
+        } catch (InterruptedException e) {
+            Thread.currentThread().interrupt();
+        }
+    }
+
+    /** The document's words that the next answers are held against; ".." stands for some left out. */
     void says(String words) {
         sentence = words;
     }

@@ -31,7 +31,7 @@ final class ControlTest {
     }
 
     private static void everyControl(int control) {
-        CHECKS.says("CONTROL: 1 no attribute is modified any more, 2 the keyboard is free, 4 an alarm");
+        CHECKS.says("CONTROL: 1 no attribute is modified any more .., 2 the keyboard is free .., 4 an alarm");
         Terminal x = Terminal.written(1, 6, 29, 33, 193, 29, 1, 194);
         x.key(1);
         int waits = x.inbound();
@@ -46,7 +46,7 @@ final class ControlTest {
     }
 
     private static void everyControlOfErasing(int control) {
-        CHECKS.says("CONTROL: 1 no attribute is modified any more, 2 the keyboard is free, 4 an alarm");
+        CHECKS.says("CONTROL: 1 no attribute is modified any more .., 2 the keyboard is free .., 4 an alarm");
         for (int command : new int[] {245, 126}) {
             Terminal x = new Terminal(1, 3);
             String name = command + " with control " + control;
@@ -114,7 +114,7 @@ final class ControlTest {
     }
 
     private static void signsAtThePlace() {
-        CHECKS.says("Then SIGNS, each into the cell at the PLACE, which goes on by one");
+        CHECKS.says("Then SIGNS, each into the cell at the PLACE .., which goes on by one");
         for (int sign = 64; sign < 256; sign++) {
             Terminal x = Terminal.written(1, 3, 193, 193, 193);
             CHECKS.due("sign " + sign, x.send(241, 2, sign, 19), 2);

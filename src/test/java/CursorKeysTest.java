@@ -2,7 +2,7 @@
 final class CursorKeysTest {
     private static final Checks CHECKS = new Checks();
 
-    /** At 0 a protected field, at 2 an open one, at 4 a skipped one, at 6 an open one without cells, at 7 an open one. */
+    /** At 0 a protected field, at 2 an open one, at 4 a skipped one, at 6 an open one without cells, at 7 an open. */
     private static final int[] FORM = {29, 32, 193, 29, 0, 194, 29, 48, 195, 29, 16, 29, 0, 196};
 
     public static void main(String[] args) {
@@ -33,7 +33,7 @@ final class CursorKeysTest {
     }
 
     private static void nextField() {
-        CHECKS.says("40: the cursor goes behind the first attribute from it on that is not protected "
+        CHECKS.says("40: the cursor goes behind the first attribute from it on .. that is not protected "
             + "and has no attribute behind it");
         cursorBy(40, 0, 3, FORM);
         cursorBy(40, 1, 3, FORM);
@@ -70,7 +70,7 @@ final class CursorKeysTest {
     }
 
     private static void previousField() {
-        CHECKS.says("41: to the first cell ahead of it that lies behind such an attribute");
+        CHECKS.says("41: to the first cell ahead of it .. that lies behind such an attribute");
         cursorBy(41, 9, 8, FORM);
         cursorBy(41, 8, 3, FORM);
         cursorBy(41, 7, 3, FORM);
@@ -143,6 +143,7 @@ final class CursorKeysTest {
         cursorBy(43, 5, 0, 193, 17, 0, 9, 29, 0);
         cursorBy(43, 5, 0, 17, 0, 3, 29, 0, 17, 0, 9, 29, 0);
         cursorBy(43, 1, 9, 17, 0, 8, 29, 0);
+        cursorBy(43, 5, 1, 29, 0, 17, 0, 8, 29, 0);
     }
 
     private static void firstFieldWithout() {

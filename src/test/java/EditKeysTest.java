@@ -27,7 +27,7 @@ final class EditKeysTest {
     }
 
     private static void emptyRest() {
-        CHECKS.says("48: cells from the cursor to its field's end are emptied");
+        CHECKS.says("48: cells from the cursor to its field's end .. are emptied");
         int[] form = {29, 0, 193, 194, 195, 29, 0, 196, 197};
         cellsBy(48, 1, form, 257, 0, 0, 0, 256, 196, 197, 0, 0, 0);
         cellsBy(48, 2, form, 257, 193, 0, 0, 256, 196, 197, 0, 0, 0);
@@ -53,7 +53,7 @@ final class EditKeysTest {
     }
 
     private static void delete() {
-        CHECKS.says("52: the sign there goes, those behind it move up by one, an empty one comes");
+        CHECKS.says("52: the sign there goes, those behind it .. move up by one, an empty one comes");
         int[] form = {29, 0, 193, 194, 195, 29, 0, 196, 197};
         cellsBy(52, 1, form, 257, 194, 195, 0, 256, 196, 197, 0, 0, 0);
         cellsBy(52, 2, form, 257, 193, 195, 0, 256, 196, 197, 0, 0, 0);

@@ -92,7 +92,7 @@ final class OrdersTest {
     }
 
     private static void changeOrder() {
-        CHECKS.says("44 n, n pairs: the attribute at the place becomes v of a pair with t = 192, the place goes on");
+        CHECKS.says("44 n, n pairs: the attribute at the place becomes v of a pair with t = 192 .., the place goes on");
         Terminal x = Terminal.written(1, 4, 29, 5, 29, 6, 193);
         CHECKS.due("44", x.send(241, 0, 17, 0, 0, 44, 1, 192, 33, 44, 2, 65, 9, 192, 255, 19), 5);
         CHECKS.due("cells", x.cells(), 256 + 33, 256 + 255, 193, 0);
@@ -164,7 +164,7 @@ final class OrdersTest {
     }
 
     private static void otherBytes() {
-        CHECKS.says("Other bytes below 64 but 0: a reject");
+        CHECKS.says("Other bytes below 64 but 0 ..: a reject");
         for (int code = 1; code < 64; code++) {
             boolean known = code == 17 || code == 29 || code == 41 || code == 44 || code == 19 || code == 5
                 || code == 60 || code == 18 || code == 8;

@@ -48,7 +48,7 @@ final class SentStreamsTest {
     }
 
     private static void modifiedFields() {
-        CHECKS.says("for each modified field: 17, the address behind the attribute, its signs");
+        CHECKS.says("for each modified field ..: 17, the address behind the attribute, its signs");
         Terminal x = Terminal.written(2, 5, 29, 1, 193, 194, 29, 0, 195, 29, 33, 196, 29, 1, 29, 0);
         CHECKS.due("sent", sentBy(x, 1).waiting(), 125, 64, 64,
             17, 64, 65, 193, 194, 17, 64, 70, 196, 17, 64, 72, 255, 239);

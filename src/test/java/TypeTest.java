@@ -207,7 +207,7 @@ final class TypeTest {
     }
 
     private static void insert() {
-        CHECKS.says("With INSERT on signs from there to the field's end move on by one, "
+        CHECKS.says("With INSERT on signs from there to the field's end .. move on by one, "
             + "up to the first empty one, which goes");
         Terminal x = inserting(8, 1, 29, 0, 193, 194, 0, 195, 0, 29, 0, 196);
         CHECKS.due("insert", x.type(200), 1);
