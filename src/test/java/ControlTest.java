@@ -87,6 +87,8 @@ final class ControlTest {
         x.key(1);
         x.send(241, 0);
         CHECKS.due("without 2", x.inbound(), 6);
+        x.send(241, 2, 1);
+        CHECKS.due("not behind a reject", x.inbound(), 6);
         x.send(241, 2);
         CHECKS.due("with 2", x.inbound(), 0);
         CHECKS.due("its first byte", x.octetThrows(0), true);
